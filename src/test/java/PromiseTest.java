@@ -39,6 +39,7 @@ public final class PromiseTest {
         copy();
         taken();
         refusalsChangeNothing();
+        largeForms();
         due.close();
     }
 
@@ -200,13 +201,18 @@ public final class PromiseTest {
         int h = x.sum(p8, f);
         due.is("180", x.number(h, 0, 0), 180);
         due.is("200 is not beyond", x.sum(h, f), 7);
-        due.is("201 and more is", x.sum(7, f), FULL);
+        due.is("220 is", x.sum(7, f), FULL);
+        int up = put(x, 0, 0, 1);
+        due.is("201 is", x.sum(7, up), FULL);
+        x.drop();
         x.drop();
         x.drop();
         h = x.sum(q8, g);
         due.is("-200 is not beyond", x.sum(h, g), 7);
         due.is("-220 is", x.sum(7, g), FULL);
-        due.is("nothing came", x.count(0), 8);
+        int down = put(x, 0, 0, -1);
+        due.is("-201 is", x.sum(7, down), FULL);
+        due.is("nothing came", x.count(0), 9);
     }
 
     private static void tooManyTerms() {
@@ -383,6 +389,8 @@ public final class PromiseTest {
         int[] ofSmooth = {0, 4, 5, 2, 2, 1, 0, 1, 4, 0};
         int thick = put(x, 0, 0, 0, 2, 0, 0, 0, 1, 0);
         int[] ofThick = {0, 3, 3, 1, 2, 0, 0, 0, 3, 0};
+        int cross = put(x, 0, 0, 0, 1, 0, 0, 0, 1, 0, 1, 1, 0);
+        due.is("a first CORNER of AREA 2", x.told(cross, 5), 0);
         int line = put(x, 0, 0, 0, 1, 2, 9);
         int[] ofLine = {0, 2, 1, 0, 0, 1, 0, 0, 0, 1};
         for (int k = 0; k < 10; k++) {
@@ -948,6 +956,37 @@ public final class PromiseTest {
         due.is("k -1, no FORM", x.taken(9, -1), BAD);
         due.is("no FORM", x.taken(4, 3), NOTHING);
         due.is("no FORM", x.taken(-1, 3), NOTHING);
+    }
+
+    /** Slopes that all differ make as many LINES; a SUM of LINES across makes a lattice. */
+    private static void largeForms() {
+        due.about("large FORMS");
+        CornerCurves x = new CornerCurves();
+        int wide = put(x, 0, 0, 0, 1, 0, -6, 2, 0, -8, 3, 0, -6, 4, 0, 0);
+        int wide2 = put(x, 0, 0, 0, 1, 0, -4, 2, 0, -4, 3, 0, 0);
+        int tall = put(x, 0, 0, 0, 0, 1, -3, 0, 2, -4, 0, 3, -3, 0, 4, 0);
+        int tall2 = put(x, 0, 0, 0, 0, 1, -7, 0, 2, -9, 0, 3, -5, 0, 4, 3);
+        int seven = x.sum(wide, wide2);
+        due.is("seven LINES", x.told(seven, 9), 7);
+        due.is("the leftmost ROOT", x.root(seven, 0, 0), -6);
+        due.is("the rightmost ROOT", x.root(seven, 6, 0), 6);
+        int lattice = x.sum(seven, tall);
+        int[] want = {1, 40, 7 * 5 + 4 * 8, 7 * 4, 2 * 7 * 4, 0, 0, 7 * 3 + 4 * 6, 7 * 2 + 4 * 2, 0};
+        for (int what = 0; what < want.length; what++) {
+            due.is("the lattice, " + what, x.told(lattice, what), want[what]);
+        }
+        due.is("its ROWS", x.write(lattice), 4 * (67 + 28));
+        due.is("they are its proof", x.check(lattice), NONE);
+        due.is("the last CORNER's x", x.row(4 * 95 - 4), 6);
+        due.is("the last CORNER's y", x.row(4 * 95 - 2), 3);
+        int eight = x.sum(tall, tall2);
+        due.is("eight LINES", x.told(eight, 9), 8);
+        due.is("7 times 8 MEETS", x.meets(seven, eight), 56);
+        due.is("the last one's x", x.meet(seven, eight, 55, 0), 6);
+        due.is("the last one's y", x.meet(eight, seven, 55, 2), 7);
+        due.is("THE AMOUNT", x.amount(seven, eight), 56);
+        int moved = x.move(lattice, 1, 0);
+        due.is("a lattice along a lattice", x.meets(lattice, moved), STATE);
     }
 
     private static void refusalsChangeNothing() {
