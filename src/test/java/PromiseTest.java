@@ -43,13 +43,8 @@ public final class PromiseTest {
         due.close();
     }
 
-    /** A FORM of i, j, v, i, j, v .. */
     private static int put(CornerCurves x, int... told) {
-        int f = x.form();
-        for (int k = 0; k + 2 < told.length; k += 3) {
-            x.term(f, told[k], told[k + 1], told[k + 2]);
-        }
-        return f;
+        return Scenes.put(x, told);
     }
 
     private static void constants() {
@@ -362,15 +357,10 @@ public final class PromiseTest {
         due.is("7 goes into -56", x.number(1, 0, 0), 1);
     }
 
-    /** A square about a stretch, with an IDLE TERM: two CORNERS joined by a SIDE. */
-    private static int bowl(CornerCurves x) {
-        return put(x, 0, 0, 0, 2, 0, 0, 0, 2, 0, 1, 1, -1, 1, 0, 6);
-    }
-
     private static void toldOfAll() {
         due.about("10 told");
         CornerCurves x = new CornerCurves();
-        int f = bowl(x);
+        int f = Scenes.bowl(x);
         int[] want = {0, 5, 5, 2, 4, 0, 1, 1, 4, 0};
         for (int k = 0; k < want.length; k++) {
             due.is("told(f, " + k + ")", x.told(f, k), want[k]);
@@ -449,7 +439,7 @@ public final class PromiseTest {
     private static void leastAt() {
         due.about("13 leastAt");
         CornerCurves x = new CornerCurves();
-        int f = bowl(x);
+        int f = Scenes.bowl(x);
         due.is("the CORNER (0, 1)", x.leastAt(f, 0, 1, 1), 3);
         due.is("the CORNER (1, 0)", x.leastAt(f, 1, 0, 1), 3);
         due.is("between", x.leastAt(f, 1, 1, 2), 2);
@@ -510,7 +500,7 @@ public final class PromiseTest {
     private static void edge() {
         due.about("16 edge");
         CornerCurves x = new CornerCurves();
-        int f = bowl(x);
+        int f = Scenes.bowl(x);
         int[][] want = {
             {-1, 0, 2, 2, 0, 0, 0, 2},
             {-1, 1, 1, 1, 0, 0, 1, 1},
@@ -541,7 +531,7 @@ public final class PromiseTest {
 
     private static void endAndCorner() {
         CornerCurves x = new CornerCurves();
-        int f = bowl(x);
+        int f = Scenes.bowl(x);
         due.about("17 end");
         long[] no = {NO, NO, NO, NO};
         long[] low = {1, 1, 0, 1};
@@ -768,22 +758,9 @@ public final class PromiseTest {
         due.is("no FORM", x.check(-1), BAD);
     }
 
-    /** FORMS 0: KIND 0 with 3 TERMS, 1: SUM, 2: POWER, 3: HIDDEN with 2 TERMS. */
-    private static CornerCurves fourKinds() {
-        CornerCurves x = new CornerCurves();
-        put(x, 0, 0, 0, 1, 0, 0, 0, 1, 0);
-        x.sum(0, 0);
-        x.power(0, 1);
-        x.sheet(0, 2, 9);
-        x.cell(0, 0, 1);
-        x.cell(0, 1, 1);
-        x.hide(0, 2, 0, 2);
-        return x;
-    }
-
     private static void act() {
         due.about("27 act");
-        CornerCurves x = fourKinds();
+        CornerCurves x = Scenes.fourKinds();
         due.is("FORM lies", x.act(0, 0, 10), 13);
         due.is("FORM weighs", x.act(0, 1, 10), 39);
         due.is("FORM meets", x.act(0, 2, 10), 39 - 13);
@@ -817,7 +794,7 @@ public final class PromiseTest {
             {{20, 10}, {11, 20, 10}, {21, 12, 11, 20, 10, 20, 10, 20, 10}},
             {{31, 20, 10}, {30, 11, 31, 20, 10}, {21, 12, 30, 11, 31, 20, 10, 31, 20, 10, 31, 20, 10}},
             {{10}, {11, 10}, {40, 12, 11, 10, 10, 11, 10}}};
-        CornerCurves x = fourKinds();
+        CornerCurves x = Scenes.fourKinds();
         for (int f = 0; f < 4; f++) {
             for (int act = 0; act < 3; act++) {
                 x.act(f, act, 5);
@@ -838,7 +815,7 @@ public final class PromiseTest {
 
     private static void count() {
         due.about("29 count");
-        CornerCurves x = fourKinds();
+        CornerCurves x = Scenes.fourKinds();
         x.write(0);
         x.act(0, 1, 1);
         due.is("FORMS", x.count(0), 4);
@@ -945,7 +922,7 @@ public final class PromiseTest {
 
     private static void taken() {
         due.about("33 taken");
-        CornerCurves x = fourKinds();
+        CornerCurves x = Scenes.fourKinds();
         int[][] want = {{3, OTHER, OTHER, OTHER}, {6, 6, OTHER, OTHER}, {3, 3, 3, OTHER}, {2, OTHER, OTHER, 2}};
         for (int f = 0; f < 4; f++) {
             for (int k = 0; k < 4; k++) {
@@ -991,7 +968,7 @@ public final class PromiseTest {
 
     private static void refusalsChangeNothing() {
         due.about("refusals change nothing");
-        CornerCurves x = fourKinds();
+        CornerCurves x = Scenes.fourKinds();
         x.write(0);
         x.act(0, 2, 3);
         x.term(0, 9, 0, 0);

@@ -10,6 +10,8 @@ public final class SumsTest {
 
     public static void main(String[] args) {
         int runs = args.length > 0 ? Integer.parseInt(args[0]) : 40;
+        due.about("the densest");
+        dense();
         for (int run = 0; run < runs; run++) {
             due.about("sums " + run);
             sums(run % 4);
@@ -17,6 +19,31 @@ public final class SumsTest {
         System.out.println("up to " + mostEdges + " EDGES, " + mostMeets + " MEETS");
         due.is("large ones were there", mostEdges >= 30 && mostMeets >= 10 ? 1 : 0, 1);
         due.close();
+    }
+
+    /** The FORM with the most EDGES that was found, as the model tells it. */
+    private static void dense() {
+        CornerCurves x = Scenes.dense();
+        PlainModel y = new PlainModel();
+        for (int f = 0; f < 2; f++) {
+            y.form();
+            for (int place = 0; place < 25; place++) {
+                int v = x.number(f, place / 5, place % 5);
+                if (v != Scenes.NO_NUMBER) {
+                    y.term(f, place / 5, place % 5, v);
+                }
+            }
+        }
+        y.sum(0, 1);
+        int n = x.write(2);
+        due.is("write", n, y.write(2));
+        for (int k = 0; k < n; k++) {
+            due.is("row(" + k + ")", x.row(k), y.row(k));
+        }
+        for (int what = 0; what < 10; what++) {
+            due.is("told(2, " + what + ")", x.told(2, what), y.told(2, what));
+        }
+        mostEdges = Math.max(mostEdges, x.told(2, 2));
     }
 
     private static int r(int n) {
