@@ -26,7 +26,7 @@ public final class RoomTest {
         calls(new CornerCurves());
     }
 
-    /** 512 calls on FORMS of 40 TERMS with as many EDGES as there can be. */
+    /** 512 calls, or a few less, on FORMS of 35 TERMS with many EDGES. */
     private static void calls(CornerCurves x) {
         int left = 512;
         int f = x.form();
@@ -38,8 +38,8 @@ public final class RoomTest {
         int g = x.power(f, 2);
         int h = x.move(g, 3, -2);
         due.is("TERMS", x.told(g, 1), 35);
-        left -= 15;
-        while (left > 8) {
+        left -= 16;
+        while (left >= 9) {
             x.sum(f, f);
             x.write(x.count(0) - 1);
             x.check(g);
@@ -48,7 +48,7 @@ public final class RoomTest {
             x.drop();
             x.same(g, h);
             x.amount(f, f);
-            left -= 8;
+            left -= 9;
         }
     }
 }

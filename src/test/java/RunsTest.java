@@ -13,6 +13,7 @@ public final class RunsTest {
     private final PlainModel y = new PlainModel();
     private long seed;
     private int style;
+    private int left = CALLS;
 
     private RunsTest(Due due, TreeMap<String, Integer> answers, long seed) {
         this.due = due;
@@ -58,39 +59,35 @@ public final class RunsTest {
     }
 
     private int aForm() {
-        return near(0, Math.max(0, x.count(0) - 1));
+        return near(0, Math.max(0, y.count(0) - 1));
     }
 
     private void run() {
         style = r(6);
-        int left = CALLS;
         while (left > 0) {
             int dice = r(100);
             if (dice < 12) {
-                left -= tellForm();
+                tellForm();
             } else {
                 String name = NAMES[r(NAMES.length)];
                 call(name, argumentsOf(name));
-                left--;
             }
         }
     }
 
-    /** Tells a whole FORM; how many calls that took. */
-    private int tellForm() {
-        if (x.count(0) > 7) {
+    private void tellForm() {
+        if (y.count(0) > 7) {
             call("drop", new long[0]);
             call("drop", new long[0]);
         }
         call("form", new long[0]);
-        int f = x.count(0) - 1;
+        int f = y.count(0) - 1;
         int terms = 1 + r(12);
         for (int k = 0; k < terms; k++) {
             int i = r(5);
             int j = style == 1 ? 0 : style == 2 ? i : r(5);
             call("term", new long[] {f, i, j, numberAt(i, j)});
         }
-        return terms + 3;
     }
 
     private int numberAt(int i, int j) {
@@ -120,7 +117,7 @@ public final class RunsTest {
             case "meet": return new long[] {aForm(), aForm(), near(0, 5), near(0, 4)};
             case "root": return new long[] {aForm(), near(0, 2), near(0, 2)};
             case "write": case "check": return new long[] {aForm()};
-            case "row": return new long[] {near(0, Math.max(0, x.count(1) - 1))};
+            case "row": return new long[] {near(0, Math.max(0, y.count(1) - 1))};
             case "forge": return forging();
             case "act": return new long[] {aForm(), near(0, 2), near(-100, 100)};
             case "trace": return new long[] {near(0, 13)};
@@ -133,8 +130,8 @@ public final class RunsTest {
     }
 
     private long[] forging() {
-        int i = near(0, Math.max(0, x.count(1) - 1));
-        return new long[] {i, r(2) == 0 ? x.row(i) : near(-5, 5)};
+        int i = near(0, Math.max(0, y.count(1) - 1));
+        return new long[] {i, r(2) == 0 ? y.row(i) : near(-5, 5)};
     }
 
     private int coordinate() {
@@ -145,7 +142,12 @@ public final class RunsTest {
         return r(2) == 0 ? near(1, 3) : near(1, 100);
     }
 
+    /** Asks both, as long as the object is used. */
     private void call(String name, long[] a) {
+        if (left == 0) {
+            return;
+        }
+        left--;
         int[] n = new int[5];
         for (int k = 0; k < a.length; k++) {
             n[k] = (int) a[k];
